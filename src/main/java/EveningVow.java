@@ -44,15 +44,11 @@ public final class EveningVow {
     private static final int HIRED = 2;
     private static final int HOMELESS = 3;
 
-    private final int[] tape = new int[TAPE_BYTES];
-    private int tapeBytes = 0;
-    private final Reader reader = new Reader(tape);
+    private final Reader reader = new Reader();
     private House told = new House();
     private House spare = new House();
     private boolean begun = false;
     private int refusal = 0;
-    private int faultNumber = 0;
-    private int faultPlace = NONE;
     private final Night now = new Night();
     private final Night trial = new Night();
     private final Pace asTold = new Pace(false);
@@ -73,25 +69,23 @@ public final class EveningVow {
     // ---- the evening
 
     public int feed(int a, int b, int c, int d, int e) {
-        if (tapeBytes + FED_BYTES > TAPE_BYTES) {
+        if (reader.tapeBytes + FED_BYTES > TAPE_BYTES) {
             return NONE;
         }
-        putNumber(a);
-        putNumber(b);
-        putNumber(c);
-        putNumber(d);
-        putNumber(e);
-        return tapeBytes;
+        reader.putNumber(a);
+        reader.putNumber(b);
+        reader.putNumber(c);
+        reader.putNumber(d);
+        reader.putNumber(e);
+        return reader.tapeBytes;
     }
 
     public int evening(int n) {
-        if (n < 0 || n > tapeBytes) {
+        if (n < 0 || n > reader.tapeBytes) {
             return refuse(BAD_NUMBER);
         }
         boolean sound = reader.read(n, spare);
-        tapeBytes = 0;
-        faultNumber = reader.faultNumber;
-        faultPlace = reader.faultPlace;
+        reader.tapeBytes = 0;
         if (!sound) {
             return refuse(FAULTY);
         }
@@ -101,11 +95,11 @@ public final class EveningVow {
     }
 
     public int fault() {
-        return faultNumber;
+        return reader.faultNumber;
     }
 
     public int where() {
-        return refusal == FAULTY ? faultPlace : NONE;
+        return refusal == FAULTY ? reader.faultPlace : NONE;
     }
 
     // ---- now
@@ -735,7 +729,7 @@ public final class EveningVow {
             case 12:
                 return imageCount;
             case 13:
-                return tapeBytes;
+                return reader.tapeBytes;
             default:
                 return NONE;
         }
@@ -794,13 +788,6 @@ public final class EveningVow {
     }
 
     // ---- what the calls share
-
-    private void putNumber(int number) {
-        for (int shift = 24; shift >= 0 && tapeBytes < TAPE_BYTES; shift -= 8) {
-            tape[tapeBytes] = (number >>> shift) & 255;
-            tapeBytes++;
-        }
-    }
 
     private void beginTold() {
         House read = spare;
@@ -1013,19 +1000,18 @@ public final class EveningVow {
                 will[g] = want[g];
             }
             for (int d = 0; d < h.draws; d++) {
-                if (has(h.drawer[d])) {
+                if (((there >> h.drawer[d]) & 1) == 1) {
                     will[h.drawnGuest[d]] += h.drawnMuch[d];
                 }
             }
         }
 
         private int unwilling(House h) {
-            weigh(h);
             boolean allThere = there == (1 << h.guests) - 1;
             int who = 0;
             for (int g = 0; g < h.guests; g++) {
                 boolean waits = allThere && h.kind[g] == POLITE;
-                if (has(g) && will[g] <= 0 && !waits) {
+                if (((there >> g) & 1) == 1 && will[g] <= 0 && !waits) {
                     who |= 1 << g;
                 }
             }
@@ -1036,10 +1022,10 @@ public final class EveningVow {
         private void release(House h, int who) {
             there &= ~who;
             for (int g = 0; g < h.guests; g++) {
-                if (inBits(who, g)) {
+                if (((who >> g) & 1) == 1) {
                     leftAt[g] = clock;
                     int other = h.mate[g];
-                    if (other >= 0 && other < h.guests && has(other)) {
+                    if (other >= 0 && other < h.guests && ((there >> other) & 1) == 1) {
                         want[other] -= h.grief;
                     }
                 }
@@ -1051,6 +1037,7 @@ public final class EveningVow {
             roundsRun = 0;
             int left = 0;
             for (int round = 0; round < GUESTS; round++) {
+                weigh(h);
                 int who = unwilling(h);
                 if (who == 0) {
                     return left;
@@ -1065,7 +1052,7 @@ public final class EveningVow {
         private void sink(House h, Pace pace) {
             for (int g = 0; g < h.guests; g++) {
                 boolean rests = h.kind[g] == HOMELESS || (h.kind[g] == HIRED && clock < HIRED_HOURS);
-                if (has(g) && !rests) {
+                if (((there >> g) & 1) == 1 && !rests) {
                     want[g] -= pace.amount(h.sinks[g]);
                 }
             }
@@ -1322,7 +1309,7 @@ public final class EveningVow {
         }
     }
 
-    /** Reads the text of an evening from the tape into a house, up to its first fault. */
+    /** Keeps the tape, and reads the text of an evening from it into a house, up to the first fault. */
     private static final class Reader {
         private static final int END = 0;
         private static final int WORD = 1;
@@ -1349,29 +1336,57 @@ public final class EveningVow {
         private static final int WORD_LETTERS = 8;
         private static final int WHOLE_DIGITS = 3;
 
+        // A word's code has its letters as bytes, as many as a long has room for.
+        private static final long W_EVENING = 0x6576656e696e67L;
+        private static final long W_GUEST = 0x6775657374L;
+        private static final long W_PAIR = 0x70616972L;
+        private static final long W_DRAWS = 0x6472617773L;
+        private static final long W_TALE = 0x74616c65L;
+        private static final long W_NEED = 0x6e656564L;
+        private static final long W_SEEN = 0x7365656eL;
+        private static final long W_GONE = 0x676f6e65L;
+        private static final long W_PLAIN = 0x706c61696eL;
+        private static final long W_POLITE = 0x706f6c697465L;
+        private static final long W_HIRED = 0x6869726564L;
+        private static final long W_HOMELESS = 0x686f6d656c657373L;
+        private static final long W_CUPS = 0x63757073L;
+        private static final long W_WAKES = 0x77616b6573L;
+        private static final long W_GRIEF = 0x6772696566L;
+        private static final long W_WANT = 0x77616e74L;
+        private static final long W_SINKS = 0x73696e6b73L;
+        private static final long W_BY = 0x6279L;
+        private static final long W_HOURS = 0x686f757273L;
+        private static final long W_TIRES = 0x7469726573L;
+        private static final long W_PAYS = 0x70617973L;
+        private static final long W_HOUR = 0x686f7572L;
+
+        final int[] tape = new int[TAPE_BYTES];
+        int tapeBytes = 0;
         int faultNumber = 0;
         int faultPlace = NONE;
-        private final int[] tape;
         private int length = 0;
         private int sort = END;
         private int from = 0;
         private int to = 0;
         private int number = 0;
+        private long code = 0;
         private boolean opened = false;
         private int names = 0;
-        private final int[] nameFrom = new int[NAMES];
-        private final int[] nameTo = new int[NAMES];
+        private final long[] nameCode = new long[NAMES];
         private final int[] nameLine = new int[NAMES];
         private final int[] nameNumber = new int[NAMES];
 
-        Reader(int[] tape) {
-            this.tape = tape;
+        void putNumber(int bytes) {
+            for (int shift = 24; shift >= 0 && tapeBytes < TAPE_BYTES; shift -= 8) {
+                tape[tapeBytes] = (bytes >>> shift) & 255;
+                tapeBytes++;
+            }
         }
 
         boolean read(int bytes, House h) {
             faultNumber = 0;
             faultPlace = NONE;
-            length = Math.min(bytes, tape.length);
+            length = Math.min(bytes, TAPE_BYTES);
             to = 0;
             opened = false;
             names = 0;
@@ -1442,17 +1457,13 @@ public final class EveningVow {
             if (line == LINE_EVENING && opened) {
                 return fail(AGAIN);
             }
-            if (line != LINE_EVENING && !opened) {
-                return fail(LACKS);
-            }
             if (isFull(h, line)) {
                 return fail(MANY);
             }
-            if (failed()) {
-                return NONE;
+            if (line != LINE_EVENING && !opened) {
+                return fail(LACKS);
             }
-            step();
-            return line;
+            return taken(line);
         }
 
         private static boolean isFull(House h, int line) {
@@ -1475,17 +1486,17 @@ public final class EveningVow {
 
         private void readEvening(House h) {
             opened = true;
-            h.cups = takeAmount("cups", 0, CUPS);
-            h.wakes = takeAmount("wakes", 1, 30);
-            h.grief = takeAmount("grief", 0, MOST_GRIEF);
+            h.cups = takeAmount(W_CUPS, 0, CUPS);
+            h.wakes = takeAmount(W_WAKES, 1, 30);
+            h.grief = takeAmount(W_GRIEF, 0, MOST_GRIEF);
         }
 
         private void readGuest(House h) {
             int g = h.guests;
             takeNewName(LINE_GUEST, g);
             h.kind[g] = takeKind();
-            h.firstWant[g] = takeAmount("want", 1, 99);
-            h.sinks[g] = takeAmount("sinks", 0, 20);
+            h.firstWant[g] = takeAmount(W_WANT, 1, 99);
+            h.sinks[g] = takeAmount(W_SINKS, 0, 20);
             h.mate[g] = NOT;
             h.guests++;
         }
@@ -1493,7 +1504,7 @@ public final class EveningVow {
         private void readPair(House h) {
             int one = takeSingle(h, NONE);
             int other = takeSingle(h, one);
-            if (!failed()) {
+            if (one >= 0 && other >= 0) {
                 h.mate[one] = other;
                 h.mate[other] = one;
                 h.pairs++;
@@ -1502,71 +1513,71 @@ public final class EveningVow {
 
         private void readDraws(House h) {
             int d = h.draws;
-            int g = takeGuest();
+            int g = taken(knownGuest());
             int by = knownGuest();
-            if (!failed() && (by == g || h.drawLine(g, by) >= 0)) {
+            if (by >= 0 && (by == g || h.drawLine(g, by) >= 0)) {
                 fail(AGAIN);
             }
             h.drawnGuest[d] = g;
-            h.drawer[d] = takeGuest();
-            h.drawnMuch[d] = takeAmount("by", 1, 20);
+            h.drawer[d] = taken(by);
+            h.drawnMuch[d] = takeAmount(W_BY, 1, 20);
             h.draws++;
         }
 
         private void readTale(House h) {
             int t = h.tales;
             takeNewName(LINE_TALE, t);
-            h.taleHours[t] = takeAmount("hours", 1, 3);
-            h.taleTires[t] = takeAmount("tires", 0, 30);
+            h.taleHours[t] = takeAmount(W_HOURS, 1, 3);
+            h.taleTires[t] = takeAmount(W_TIRES, 0, 30);
             h.tales++;
         }
 
         private void readNeed(Town town) {
             int n = town.needs;
             takeNewName(LINE_NEED, n);
-            town.needHour[n] = takeAmount("by", 0, 30);
-            town.needPays[n] = takeAmount("pays", 1, 99);
+            town.needHour[n] = takeAmount(W_BY, 0, 30);
+            town.needPays[n] = takeAmount(W_PAYS, 1, 99);
             town.needs++;
         }
 
         private void readSight(Town town, int there) {
             int s = town.sights;
-            town.sightGuest[s] = takeGuest();
-            town.sightHour[s] = takeAmount("hour", 0, SIGHT_HOURS);
+            town.sightGuest[s] = taken(knownGuest());
+            town.sightHour[s] = takeAmount(W_HOUR, 0, SIGHT_HOURS);
             town.sightThere[s] = there;
             town.sights++;
         }
 
         // ---- parts of lines
 
+        /** Goes on behind a token that stood for a number, if there is no fault at it. */
+        private int taken(int what) {
+            if (failed()) {
+                return NONE;
+            }
+            step();
+            return what;
+        }
+
         private void takeMark() {
             if (sort != MARK) {
                 fail(FORM);
             }
-            if (!failed()) {
-                step();
-            }
+            taken(0);
         }
 
-        private int takeAmount(String word, int least, int most) {
-            if (!isWord(word)) {
+        private int takeAmount(long word, int least, int most) {
+            if (sort != WORD || code != word) {
                 fail(FORM);
             }
-            if (!failed()) {
-                step();
-            }
+            taken(0);
             if (sort != WHOLE) {
                 fail(FORM);
             }
             if (number < least || number > most) {
                 fail(BOUNDS);
             }
-            if (failed()) {
-                return NONE;
-            }
-            int amount = number;
-            step();
-            return amount;
+            return taken(number);
         }
 
         private int takeKind() {
@@ -1574,11 +1585,7 @@ public final class EveningVow {
             if (kind == NONE) {
                 fail(FORM);
             }
-            if (failed()) {
-                return NONE;
-            }
-            step();
-            return kind;
+            return taken(kind);
         }
 
         private void takeNewName(int line, int itsNumber) {
@@ -1591,8 +1598,7 @@ public final class EveningVow {
             if (failed() || names >= NAMES) {
                 return;
             }
-            nameFrom[names] = from;
-            nameTo[names] = to;
+            nameCode[names] = code;
             nameLine[names] = line;
             nameNumber[names] = itsNumber;
             names++;
@@ -1611,21 +1617,13 @@ public final class EveningVow {
             return failed() ? NONE : nameNumber[i];
         }
 
-        private int takeGuest() {
-            int g = knownGuest();
-            if (!failed()) {
-                step();
-            }
-            return g;
-        }
-
         /** A guest who is in no pair yet, and unlike another one. */
         private int takeSingle(House h, int unlike) {
             int g = knownGuest();
             if (g >= 0 && (g == unlike || h.mate[g] >= 0)) {
-                return fail(AGAIN);
+                fail(AGAIN);
             }
-            return takeGuest();
+            return taken(g);
         }
 
         // ---- words
@@ -1636,70 +1634,55 @@ public final class EveningVow {
 
         private int nameIndex() {
             for (int i = 0; i < names; i++) {
-                if (nameTo[i] - nameFrom[i] == to - from && isNameAt(nameFrom[i])) {
+                if (nameCode[i] == code) {
                     return i;
                 }
             }
             return NONE;
         }
 
-        private boolean isNameAt(int place) {
-            for (int i = 0; from + i < to; i++) {
-                if (tape[place + i] != tape[from + i]) {
-                    return false;
-                }
-            }
-            return true;
-        }
-
-        private boolean isWord(String word) {
-            if (sort != WORD || to - from != word.length()) {
-                return false;
-            }
-            for (int i = 0; i < word.length(); i++) {
-                if (tape[from + i] != word.charAt(i)) {
-                    return false;
-                }
-            }
-            return true;
-        }
-
         private int lineOfWord() {
-            if (isWord("evening")) {
+            if (sort != WORD) {
+                return NONE;
+            }
+            if (code == W_EVENING) {
                 return LINE_EVENING;
             }
-            if (isWord("guest")) {
+            if (code == W_GUEST) {
                 return LINE_GUEST;
             }
-            if (isWord("pair")) {
+            if (code == W_PAIR) {
                 return LINE_PAIR;
             }
-            if (isWord("draws")) {
+            if (code == W_DRAWS) {
                 return LINE_DRAWS;
             }
-            if (isWord("tale")) {
+            if (code == W_TALE) {
                 return LINE_TALE;
             }
-            if (isWord("need")) {
+            if (code == W_NEED) {
                 return LINE_NEED;
             }
-            if (isWord("seen")) {
+            if (code == W_SEEN) {
                 return LINE_SEEN;
             }
-            return isWord("gone") ? LINE_GONE : NONE;
+            return code == W_GONE ? LINE_GONE : NONE;
         }
 
         private int kindOfWord() {
-            if (isWord("plain")) {
+            if (sort != WORD) {
+                return NONE;
+            }
+            if (code == W_PLAIN) {
                 return PLAIN;
             }
-            if (isWord("polite")) {
+            if (code == W_POLITE) {
                 return POLITE;
             }
-            if (isWord("hired")) {
+            if (code == W_HIRED) {
                 return HIRED;
             }
-            return isWord("homeless") ? HOMELESS : NONE;
+            return code == W_HOMELESS ? HOMELESS : NONE;
         }
 
         // ---- tokens
@@ -1712,9 +1695,9 @@ public final class EveningVow {
             to = from;
             if (from >= length) {
                 sort = END;
-            } else if (isLetter(tape[from])) {
+            } else if (tape[from] >= 'a' && tape[from] <= 'z') {
                 stepWord();
-            } else if (isDigit(tape[from])) {
+            } else if (tape[from] >= '0' && tape[from] <= '9') {
                 stepWhole();
             } else {
                 sort = tape[from] == ';' ? MARK : STRANGE;
@@ -1723,7 +1706,9 @@ public final class EveningVow {
         }
 
         private void stepWord() {
-            while (to < length && isLetter(tape[to])) {
+            code = 0;
+            while (to < length && tape[to] >= 'a' && tape[to] <= 'z') {
+                code = (code << 8) | tape[to];
                 to++;
             }
             sort = to - from > WORD_LETTERS ? STRANGE : WORD;
@@ -1731,19 +1716,11 @@ public final class EveningVow {
 
         private void stepWhole() {
             number = 0;
-            while (to < length && isDigit(tape[to])) {
+            while (to < length && tape[to] >= '0' && tape[to] <= '9') {
                 number = 10 * number + tape[to] - '0';
                 to++;
             }
             sort = to - from > WHOLE_DIGITS ? STRANGE : WHOLE;
-        }
-
-        private static boolean isLetter(int b) {
-            return b >= 'a' && b <= 'z';
-        }
-
-        private static boolean isDigit(int b) {
-            return b >= '0' && b <= '9';
         }
     }
 }
