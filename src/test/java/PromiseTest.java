@@ -54,6 +54,10 @@ public final class PromiseTest {
     undoing();
     images();
     nobodyThere();
+    accepted();
+    atSixtyHours();
+    remembered();
+    fullHouse();
     System.out.println(wrong == 0 ? checks + " answers are as due" : wrong + " answers are not as due");
     if (wrong != 0) System.exit(1);
   }
@@ -703,5 +707,147 @@ public final class PromiseTest {
     due("often", x.often(0, 90, 0), 90);
     due("keeps", x.keeps(0, 0, 90), 0);
     due("paid", x.paid(), 8);
+  }
+
+  private interface Call {
+    void on(EveningVow x);
+  }
+
+  /** Behind a refused call, one that isn't refused leaves no trouble. */
+  private static void accepted() {
+    Call[] calls = {
+      x -> Texts.tell(x, SHORT), x -> x.guest(0, 0), x -> x.drawn(3, 0), x -> x.there(), x -> x.leaving(), x -> x.thereIn(0), x -> x.wantIn(0, 0),
+      x -> x.busiest(true), x -> x.order(0), x -> x.pull(0), x -> x.leavesIn(0), x -> x.ends(), x -> x.last(), x -> x.chain(0),
+      x -> x.biggest(), x -> x.undrawn(3, 0), x -> x.apart(0), x -> x.rounds(), x -> x.byGrief(0), x -> x.tireFor(60), x -> x.endsWithout(0),
+      x -> x.holder(), x -> x.without(60), x -> x.endsWithTale(0), x -> x.endsWithCup(0), x -> x.bestCup(), x -> x.soonest(),
+      x -> x.taleAt(0), x -> x.latest(), x -> x.cupsFor(60), x -> x.cupsTo(0), x -> x.ways(), x -> x.wayAt(0), x -> x.judge(),
+      x -> x.pays(99), x -> x.paid(), x -> x.house(6, 6, true), x -> x.rests(), x -> x.rest(), x -> x.endsBy(65536),
+      x -> x.mean(65536, 90, true), x -> x.often(65536, 90, 60), x -> x.keeps(0, 65536, 90), x -> x.hour(), x -> x.tell(0), x -> x.cup(0),
+      x -> x.send(0), x -> { x.hour(); x.guest(9, 9); x.undo(); }, x -> x.image(), x -> { x.image(); x.guest(9, 9); x.back(0); }
+    };
+    for (int i = 0; i < calls.length; i++) {
+      EveningVow x = of(HOUSE);
+      refused(x, "refused", x.guest(9, 9), -1000, 1);
+      calls[i].on(x);
+      due("call " + i + " leaves no trouble", x.trouble(), 0);
+    }
+    EveningVow x = of(HOUSE);
+    x.guest(9, 9);
+    x.feed(0, 0, 0, 0, 0);
+    x.fault();
+    x.where();
+    x.size(0);
+    x.size(99);
+    led(x, 9);
+    due("those that are refused by no number leave the trouble", x.trouble(), 1);
+  }
+
+  private static void atSixtyHours() {
+    EveningVow x = of("evening cups 4 wakes 1 grief 0;guest a plain want 60 sinks 1;guest b plain want 60 sinks 1;tale t hours 3 tires 1");
+    due("ends", x.ends(), 60);
+    due("last", x.last(), 3);
+    due("order 1", x.order(1), 1);
+    due("busiest", x.busiest(true), 60);
+    due("busiest, there", x.busiest(false), 0);
+    due("endsWithout", x.endsWithout(0), 60);
+    due("without", x.without(60), 0);
+    due("tireFor", x.tireFor(60), 0);
+    due("wantIn 0", x.wantIn(0, 0), 60);
+    due("wantIn 60", x.wantIn(0, 60), 0);
+    due("endsWithCup", x.endsWithCup(0), -2);
+    due("latest", x.latest(), -2);
+    due("cupsFor", x.cupsFor(60), 0);
+    due("paid", of("evening cups 0 wakes 1 grief 0;guest a plain want 60 sinks 1;need n by 30 pays 1").paid(), 0);
+    x = of("evening cups 1 wakes 1 grief 0;guest a plain want 59 sinks 1;guest b homeless want 9 sinks 1;need n by 30 pays 1");
+    due("never, for b", x.ends(), -2);
+    due("holder: without b it ends", x.holder(), 1);
+    x.send(1);
+    due("latest 60", x.latest(), 60);
+    due("cupsTo at 60", x.cupsTo(0), 1);
+    due("cupsFor 60", x.cupsFor(60), 1);
+    due("endsWithCup 60", x.endsWithCup(0), 60);
+    due("soonest by no tale", x.soonest(), 59);
+    x = of("evening cups 0 wakes 1 grief 0;guest a plain want 61 sinks 1;tale t hours 3 tires 1");
+    due("soonest 60", x.soonest(), 60);
+    due("taleAt 60", x.taleAt(0), 0);
+    due("endsWithTale 60", x.endsWithTale(0), 60);
+    x = of("evening cups 4 wakes 30 grief 0;guest a homeless want 80 sinks 1");
+    for (int i = 0; i < 4; i++) x.cup(0);
+    due("tireFor 200", x.tireFor(1), 200);
+    // 65536 draws itself for ever, 1 mod 5 and 1 mod 3: both sink by 1 an hour
+    x = of("evening cups 0 wakes 1 grief 0;guest a plain want 60 sinks 2;guest b plain want 59 sinks 2");
+    due("endsBy 60", x.endsBy(65536), 60);
+    due("mean 60", x.mean(65536, 3, false), 60);
+    due("often 60", x.often(65536, 3, 60), 3);
+    due("often 59", x.often(65536, 3, 59), 0);
+    due("keeps at 60", x.keeps(0, 65536, 3), 3);
+    due("not last", x.keeps(1, 65536, 3), 0);
+    x = of("evening cups 0 wakes 1 grief 0;guest a plain want 61 sinks 2");
+    due("endsBy, not in 60", x.endsBy(65536), -2);
+    x = of(SHORT);
+    // from 28652 they end in 3, 2, 3 and 2 hours
+    due("mean of 2", 10 * x.mean(28652, 2, false) + x.mean(28652, 2, true), 52);
+    due("mean of 3", 10 * x.mean(28652, 3, false) + x.mean(28652, 3, true), 83);
+    due("mean of 4, in lowest terms", 10 * x.mean(28652, 4, false) + x.mean(28652, 4, true), 52);
+  }
+
+  /** What a search found is not kept beyond what it was asked of. */
+  private static void remembered() {
+    EveningVow x = of("evening cups 1 wakes 4 grief 0;guest a plain want 5 sinks 2;tale t hours 1 tires 30;seen a hour 2");
+    due("soonest", x.soonest(), 1);
+    due("taleAt", x.taleAt(0), 0);
+    due("latest", x.latest(), 5);
+    due("ways", x.ways(), 4);
+    x.image();
+    x.tell(0);
+    due("soonest behind", x.soonest(), 0);
+    due("latest behind", x.latest(), 0);
+    refused(x, "taleAt behind", x.taleAt(0), -1, 1);
+    x.back(0);
+    due("soonest by the image", x.soonest(), 1);
+    due("latest by the image", x.latest(), 5);
+    x.cup(0);
+    due("latest without a cup", x.latest(), 5);
+    due("cupsTo without a cup", x.cupsTo(0), 0);
+    due("cupsFor without a cup", x.cupsFor(5), 0);
+    x.undo();
+    due("cupsTo with it", x.cupsTo(0), 1);
+    due("cupsFor with it", x.cupsFor(5), 1);
+    Texts.tell(x, SHORT + ";seen a hour 3");
+    due("another evening: ways", x.ways(), 0);
+    due("another evening: judge", x.judge(), 0);
+    due("another evening: soonest", x.soonest(), 3);
+    due("another evening: latest", x.latest(), 3);
+    Texts.tell(x, HOUSE);
+    due("a third: taleAt without another call", x.taleAt(0), 1);
+    Texts.tell(x, HOUSE);
+    due("a fourth: cupsFor without another call", x.cupsFor(7), 0);
+    Texts.tell(x, HOUSE);
+    due("a fifth: cupsTo without another call", x.cupsTo(3), 1);
+    Texts.tell(x, HOUSE);
+    due("a sixth: wayAt without another call", x.wayAt(3), 3);
+    due("often by its own seed", of(SHORT).often(5624, 1, 2), 0);
+  }
+
+  /** All that there is room for. */
+  private static void fullHouse() {
+    StringBuilder b = new StringBuilder("evening cups 4 wakes 1 grief 40");
+    for (int g = 0; g < 7; g++) b.append(";guest g").append((char) ('a' + g)).append(" plain want 9 sinks 9");
+    for (int g = 1; g < 7; g++) b.append(";draws g").append((char) ('a' + g)).append(" g").append((char) ('a' + g - 1)).append(" by 20");
+    for (int t = 0; t < 4; t++) b.append(";tale t").append((char) ('a' + t)).append(" hours 3 tires 0");
+    for (int n = 0; n < 5; n++) b.append(";need n").append((char) ('a' + n)).append(" by ").append(n).append(" pays 1");
+    EveningVow x = of(b.toString());
+    due("guests", x.there(), 127);
+    due("they go one by one", x.rounds(), 7);
+    due("all in an hour", x.leaving(), 127);
+    due("chain of the first", x.chain(0), 1);
+    due("by cups", x.latest(), 2);
+    due("one is enough: the last one's", x.cupsTo(6), 1);
+    due("the less to the first", x.cupsTo(0), 0);
+    due("a cup to the first one holds all", x.endsWithCup(0), 2);
+    due("the first such", x.bestCup(), 0);
+    due("needs", x.pays(3), 2);
+    for (int t = 3; t > 0; t--) due("tale " + t, x.endsWithTale(t), 3);
+    due("no tale", x.soonest(), 1);
   }
 }
