@@ -1214,8 +1214,12 @@ public final class EveningVow {
             known = true;
         }
 
-        // Fewer cups come first, then the less to the first guests: of like shares the first is kept.
+        // Fewer cups come first, then the less to the first guests: of like shares the first is kept,
+        // and behind one by which it doesn't end none can be better.
         private void share(House h, Night now, Pace pace, int cups, int g, int left) {
+            if (bestHours > HOURS) {
+                return;
+            }
             if (g >= h.guests || g >= GUESTS) {
                 if (left == 0) {
                     weighShare(h, now, pace, cups);
