@@ -10,7 +10,7 @@ import java.util.Random;
 
 /** Runs of calls drawn from fixed seeds: EveningVow answers each as Model does, and throws only what is due. */
 public final class ModelTest {
-  private static final int RUNS = 240;
+  private static final int RUNS = Integer.getInteger("runs", 240);
   private static final int CALLS = 300;
 
   private static final List<Method> CALLS_OF_FACE = new ArrayList<>();
@@ -49,6 +49,7 @@ public final class ModelTest {
       Object[] args = new Object[m.getParameterCount()];
       for (int i = 0; i < args.length; i++) args[i] = m.getParameterTypes()[i] == boolean.class ? (Object) r.nextBoolean() : (Object) number(r);
       if (args.length >= 2 && m.getName().matches("mean|often|keeps") && r.nextInt(8) > 0) tame(m.getName(), args, r);
+      if (m.getName().equals("undrawn") && r.nextInt(6) > 0) aim(x, y, args, r);
       Object got = answer(m, x, args);
       Object due = answer(OF_MODEL.get(m.getName()), y, args);
       said.add(m.getName() + Arrays.toString(args) + " " + got);
@@ -69,6 +70,18 @@ public final class ModelTest {
       for (Method m : CALLS_OF_FACE) if (m.getName().equals(act)) return m;
     }
     return CALLS_OF_FACE.get(r.nextInt(CALLS_OF_FACE.size()));
+  }
+
+  /** Two of whom one is drawn by the other, if there are such; both are asked, since asking may change the trouble. */
+  private static void aim(EveningVow x, Model y, Object[] args, Random r) {
+    List<int[]> twos = new ArrayList<>();
+    for (int g = 0; g < x.size(3); g++) {
+      for (int by = 0; by < x.size(3); by++) if (y.drawn(g, by) > 0 & x.drawn(g, by) > 0) twos.add(new int[] {g, by});
+    }
+    if (twos.isEmpty()) return;
+    int[] two = twos.get(r.nextInt(twos.size()));
+    args[0] = two[0];
+    args[1] = two[1];
   }
 
   private static void tame(String name, Object[] args, Random r) {

@@ -158,6 +158,14 @@ public final class PromiseTest {
     x.feed(0x6576656e, 0x696e6720, 0x7b202020, 0x20202020, 0x20202020);
     x.evening(20);
     due("order of bytes", x.where(), 8);
+    // what is behind the first n bytes is no part of the text: neither the 2 of 12 nor the letters behind it
+    String text = "evening cups 0 wakes 1 grief 0;guest a plain want 3 sinks 12zz";
+    Texts.feed(x, text);
+    due("a part of the tape", x.evening(text.length() - 3), 1);
+    due("it sinks by 1", x.wantIn(0, 1), 2);
+    Texts.feed(x, text);
+    x.evening(text.length() - 6);
+    due("a word cut short", x.where(), text.length() - 10);
     x.feed(0xff000000, 0, 0, 0, 0x80000000);
     x.evening(20);
     due("a byte above 127", x.where(), 0);
@@ -311,6 +319,13 @@ public final class PromiseTest {
     refused(x, "undrawn by himself", x.undrawn(1, 1), -1, 1);
     refused(x, "undrawn by nobody", x.undrawn(1, 3), -1, 1);
     due("drawn as ever", x.drawn(1, 0), 3);
+    // a holds out till hour 13 for b's sake, c for a's, b for c's; with one draw less they go by hour 9
+    x = of("evening cups 0 wakes 1 grief 0;guest a plain want 4 sinks 1;guest b plain want 7 sinks 1;guest c plain want 9 sinks 1;draws b c by 20;draws c a by 20;draws a b by 9");
+    due("drawn in a ring", x.ends(), 13);
+    due("undrawn b, c", x.undrawn(1, 2), 9);
+    due("undrawn c, a", x.undrawn(2, 0), 9);
+    due("undrawn a, b", x.undrawn(0, 1), 9);
+    due("drawn in a ring as ever", x.ends(), 13);
     x = of("evening cups 0 wakes 1 grief 0;guest a homeless want 9 sinks 1;guest b plain want 2 sinks 1;draws a b by 5");
     due("undrawn: never", x.undrawn(0, 1), -2);
   }
@@ -761,6 +776,8 @@ public final class PromiseTest {
     x = of("evening cups 1 wakes 1 grief 0;guest a plain want 59 sinks 1;guest b homeless want 9 sinks 1;need n by 30 pays 1");
     due("never, for b", x.ends(), -2);
     due("holder: without b it ends", x.holder(), 1);
+    due("holder: without b it ends in 60", of("evening cups 1 wakes 1 grief 0;guest a plain want 60 sinks 1;guest b homeless want 9 sinks 1").holder(), 1);
+    due("holder: nor without b", of("evening cups 1 wakes 1 grief 0;guest a plain want 61 sinks 1;guest b homeless want 9 sinks 1").holder(), -2);
     x.send(1);
     due("latest 60", x.latest(), 60);
     due("cupsTo at 60", x.cupsTo(0), 1);

@@ -83,6 +83,7 @@ public final class TextTest {
       fault(1, THREE + ";seen |" + word + " hour");
     }
     fault(0, HEAD + ";guest plain plain want 1 sinks 0;guest want polite want 1 sinks 0;pair plain want;draws plain want by 1;tale by hours 1 tires 1;seen want hour 1");
+    fault(0, HEAD + ";guest z plain want 9 sinks 9;guest azzzzzzz plain want 9 sinks 0;guest zzzzzzza plain want 9 sinks 0;pair zzzzzzza azzzzzzz");
     fault(2, HEAD + ";pair |a b");
     fault(2, THREE + ";pair a |x");
     fault(2, THREE + ";draws |x a");
