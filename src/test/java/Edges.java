@@ -13,6 +13,13 @@ class Edges {
   /** What led() stands for here when it throws. */
   static final int THROWN = -77;
 
+  /** As much of each sort as there is room for. */
+  static final String FULL = text(4, 30, 40, guests(7, "homeless", 99, 20), "pair a b;pair c d;pair e f",
+      "draws a b by 1;draws b a by 1;draws c a by 1;draws d a by 1;draws e a by 1;draws f a by 1;draws g a by 1;draws a g by 1",
+      "tale p hours 1 tires 1;tale q hours 1 tires 1;tale r hours 1 tires 1;tale s hours 1 tires 1",
+      "need i by 0 pays 1;need j by 0 pays 1;need k by 0 pays 1;need l by 0 pays 1;need m by 0 pays 1",
+      "seen a hour 0;seen a hour 0;seen a hour 0;gone a hour 0;gone a hour 0;gone a hour 0");
+
   private static final Pattern NAME = Pattern.compile("promise(\\d\\d)_\\w+");
   private static String running = "";
   private static int wrong = 0;

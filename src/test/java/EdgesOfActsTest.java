@@ -228,6 +228,8 @@ public final class EdgesOfActsTest extends Edges {
     x = at(0);
     refused(x, "no act", x.undo(), 6);
     x.hour();
+    x.there();
+    x.guest(9, 9);
     due("one", x.undo(), true);
     due("trouble", x.trouble(), 0);
     refused(x, "no more", x.undo(), 6);

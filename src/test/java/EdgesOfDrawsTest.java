@@ -206,7 +206,12 @@ public final class EdgesOfDrawsTest extends Edges {
 
   static void promise47_onlyIfItEnds() {
     due("two of four", some().keeps(0, 0, 4), 2);
+    due("in 60, behind one that doesn't", some().keeps(0, 5, 2), 1);
     due("never", till(61).keeps(0, 65536, 9), 0);
-    due("nobody is there", empty().keeps(0, 0, 9), 0);
+    due("he leaves in the 60th, another one stays", plainly(guest("a", "plain", 60, 2), guest("b", "homeless", 1, 0)).keeps(0, 65536, 1), 0);
+    EveningVow x = till(9);
+    due("one of one", x.keeps(0, 0, 1), 1);
+    x.send(0);
+    due("nobody is there", x.keeps(0, 0, 9), 0);
   }
 }

@@ -1,5 +1,8 @@
 /** Boundary cases of promises 18 to 27: who holds the evening. */
 public final class EdgesOfHoldersTest extends Edges {
+  /** Each of seven is drawn by the one ahead of him. */
+  private static final String ROW_OF_DRAWS = "draws b a by 20;draws c b by 20;draws d c by 20;draws e d by 20;draws f e by 20;draws g f by 20";
+
   public static void main(String[] args) {
     runAll(EdgesOfHoldersTest.class, 18, 27);
   }
@@ -33,7 +36,10 @@ public final class EdgesOfHoldersTest extends Edges {
   }
 
   static void promise18_himselfAlone() {
-    due("chain", till(5).chain(0), 1);
+    EveningVow x = till(5);
+    x.undo();
+    due("chain", x.chain(0), 1);
+    due("trouble", x.trouble(), 0);
     due("with others there", plainly(guests(7, "plain", 1, 1)).chain(6), 64);
   }
 
@@ -61,9 +67,7 @@ public final class EdgesOfHoldersTest extends Edges {
   }
 
   static void promise18_allSevenRoundByRound() {
-    StringBuilder draws = new StringBuilder();
-    for (int g = 1; g < 7; g++) draws.append(g == 1 ? "" : ";").append("draws ").append((char) ('a' + g)).append(' ').append((char) ('a' + g - 1)).append(" by 20");
-    EveningVow x = plainly(guest("a", "homeless", 9, 0), guests(7, "plain", 9, 9).substring(guest("a", "plain", 9, 9).length() + 1), draws.toString());
+    EveningVow x = of(text(0, 1, 0, guests(7, "plain", 9, 9), ROW_OF_DRAWS).replace("a plain", "a homeless"));
     x.hour();
     due("they stay for one another", x.there(), 127);
     due("chain of the first", x.chain(0), 127);
@@ -211,15 +215,22 @@ public final class EdgesOfHoldersTest extends Edges {
     due("polite", plainly(guests(2, "polite", 1, 1)).rounds(), 0);
   }
 
+  static void promise22_askedTwice() {
+    EveningVow x = till(1);
+    x.ends();
+    due("once", x.rounds(), 1);
+    due("twice", x.rounds(), 1);
+    x.hour();
+    due("behind it", x.rounds(), 0);
+  }
+
   static void promise22_oneIfAllLeaveAtOnce() {
     due("one", till(1).rounds(), 1);
     due("seven guests", plainly(guests(7, "plain", 1, 1)).rounds(), 1);
   }
 
   static void promise22_aRoundForEach() {
-    StringBuilder draws = new StringBuilder();
-    for (int g = 1; g < 7; g++) draws.append(g == 1 ? "" : ";").append("draws ").append((char) ('a' + g)).append(' ').append((char) ('a' + g - 1)).append(" by 20");
-    EveningVow x = plainly(guests(7, "plain", 9, 9), draws.toString());
+    EveningVow x = plainly(guests(7, "plain", 9, 9), ROW_OF_DRAWS);
     due("one by one", x.rounds(), 7);
   }
 

@@ -83,6 +83,14 @@ public final class EdgesOfNowTest extends Edges {
     due("he isn't there", x.guest(0, 3), 0);
   }
 
+  static void promise06_1IfHeIsThere() {
+    EveningVow x = homeless(2);
+    due("there", x.guest(0, 3), 1);
+    x.send(0);
+    due("not there", x.guest(0, 3), 0);
+    due("the other one", x.guest(1, 3), 1);
+  }
+
   static void promise06_theHourAtWhichHeLeft() {
     EveningVow x = plainly(guest("a", "plain", 1, 1), guest("b", "homeless", 9, 0), guest("c", "homeless", 9, 0));
     due("there", x.guest(0, 4), -2);
@@ -135,6 +143,13 @@ public final class EdgesOfNowTest extends Edges {
     due("by one behind another", x.drawn(0, 2), 0);
     x.send(1);
     due("as told, even if he has left", x.drawn(0, 1), 1);
+  }
+
+  static void promise07_allEight() {
+    EveningVow x = of(FULL);
+    due("the first", x.drawn(0, 1), 1);
+    due("the eighth", x.drawn(0, 6), 1);
+    due("no ninth", x.drawn(6, 5), 0);
   }
 
   // ---- 8: there
@@ -393,6 +408,8 @@ public final class EdgesOfNowTest extends Edges {
     due("those there", x.pull(0), 100);
     for (int g = 2; g < 7; g++) x.send(g);
     due("none of them is there", x.pull(0), 0);
+    due("by all eight draws", of(FULL).pull(0), 6);
+    due("by the eighth", of(FULL).pull(6), 1);
   }
 
   // ---- 15: leavesIn
@@ -455,6 +472,7 @@ public final class EdgesOfNowTest extends Edges {
     EveningVow x = empty();
     due("0", x.last(), 0);
     x = till(1);
+    due("1", x.last(), 1);
     x.hour();
     due("not those who left last", x.last(), 0);
   }

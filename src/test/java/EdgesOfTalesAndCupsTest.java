@@ -150,6 +150,24 @@ public final class EdgesOfTalesAndCupsTest extends Edges {
     due("no tale is told", empty(FOUR_TALES).soonest(), 0);
   }
 
+  static void promise31_fromNowBehindEachAct() {
+    EveningVow x = of(1, 9, 0, guest("a", "plain", 9, 1), "tale t hours 1 tires 5");
+    x.image();
+    due("told", x.soonest(), 4);
+    x.cup(0);
+    due("a cup later", x.soonest(), 13);
+    x.undo();
+    due("undone", x.soonest(), 4);
+    x.tell(0);
+    due("behind the tale", x.soonest(), 3);
+    x.back(0);
+    due("gone back", x.soonest(), 4);
+    x.send(0);
+    due("sent home", x.soonest(), 0);
+    Texts.tell(x, text(0, 1, 0, guest("a", "plain", 50, 1)));
+    due("told anew", x.soonest(), 50);
+  }
+
   // ---- 32: taleAt
 
   static void promise32_noSuchPlace() {
@@ -174,6 +192,12 @@ public final class EdgesOfTalesAndCupsTest extends Edges {
     for (int i = 0; i < 4; i++) due("" + i, x.taleAt(i), i);
     refused(x, "4", x.taleAt(4), 1);
     due("led, none is told by that", led(x, 0), THROWN);
+  }
+
+  static void promise32_itEndsIn60() {
+    due("in 60", till(61, "tale t hours 3 tires 1").taleAt(0), 0);
+    EveningVow x = till(60, "tale t hours 3 tires 0");
+    refused(x, "in 60 without a tale", x.taleAt(0), 1);
   }
 
   static void promise32_itDoesntEnd() {
@@ -225,6 +249,26 @@ public final class EdgesOfTalesAndCupsTest extends Edges {
 
   static void promise33_nobodyIsThere() {
     due("0", empty().latest(), 0);
+  }
+
+  static void promise33_fromNowBehindEachAct() {
+    EveningVow x = of(2, 9, 0, guest("a", "plain", 9, 1), guest("b", "plain", 5, 1));
+    x.image();
+    due("told", x.latest(), 27);
+    due("a's cups", x.cupsTo(0), 2);
+    x.hour();
+    due("an hour later", x.latest(), 26);
+    x.undo();
+    due("undone", x.latest(), 27);
+    x.send(0);
+    due("without a", x.latest(), 23);
+    due("a's cups then", x.cupsTo(0), 0);
+    due("too many hours then", x.cupsFor(24), -2);
+    x.back(0);
+    due("gone back", x.latest(), 27);
+    Texts.tell(x, text(0, 1, 0, guest("a", "plain", 3, 1)));
+    due("told anew", x.latest(), 3);
+    due("cups told anew", x.cupsFor(4), -2);
   }
 
   static void promise33_nothingIsDone() {

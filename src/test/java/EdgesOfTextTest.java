@@ -156,6 +156,19 @@ public final class EdgesOfTextTest extends Edges {
     Texts.feed(x, ONE);
     refused(x, "one byte less", x.evening(ONE.length() - 1), 4);
     due("where", x.where(), ONE.length() - 1);
+    String pair = THREE + ";pair a b";
+    Texts.feed(x, pair + "bbbbbbbbbbbbbb");
+    due("a WORD goes on behind them", x.evening(pair.length()), 3);
+    Texts.feed(x, pair + "bbbbbbbbbbbbbb");
+    refused(x, "one byte more", x.evening(pair.length() + 1), 4);
+    due("fault", x.fault(), 2);
+  }
+
+  static void promise03_aTapeFullOfLettersOrDigits() {
+    fault(1, "|" + "z".repeat(800));
+    fault(1, "|" + "9".repeat(800));
+    fault(1, "|" + ";".repeat(800));
+    fault(1, "evening cups |" + "0".repeat(787));
   }
 
   static void promise03_behindAFaultTheTapeIsEmptyAndTheEveningStays() {
@@ -205,6 +218,26 @@ public final class EdgesOfTextTest extends Edges {
     due("no tale told", led(x, 0), THROWN);
     due("nothing to undo", x.undo(), false);
     due("no images", x.back(0), false);
+  }
+
+  static void promise03_toldThriceNothingOfTheFirstStays() {
+    EveningVow x = of(FULL);
+    Texts.tell(x, ONE);
+    Texts.tell(x, ONE);
+    due("guests", x.size(3), 1);
+    for (int what = 4; what <= 8; what++) due("size " + what, x.size(what), 0);
+    due("no pair", x.guest(0, 5), -2);
+    due("nothing was seen", x.judge(), -2);
+    due("full again", Texts.tell(x, FULL), 7);
+  }
+
+  static void promise03_ofAFaultyTextNothingStays() {
+    EveningVow x = new EveningVow();
+    refused(x, "a fault at the end", Texts.tell(x, FULL.substring(0, FULL.length() - 1)), 4);
+    due("guests", Texts.tell(x, ONE), 1);
+    for (int what = 4; what <= 8; what++) due("size " + what, x.size(what), 0);
+    refused(x, "a fault at the end", Texts.tell(x, FULL.substring(0, FULL.length() - 1)), 4);
+    due("its names are not told", Texts.tell(x, FULL), 7);
   }
 
   static void promise03_theSameTextTwice() {
@@ -446,6 +479,13 @@ public final class EdgesOfTextTest extends Edges {
     fault(0, THREE + ";draws a c by 1;draws b c by 1");
   }
 
+  static void promise03_kindsAreFour() {
+    for (String kind : new String[] {"plain", "polite", "hired", "homeless"}) fault(0, HEAD + ";guest a " + kind + " want 1 sinks 0");
+    for (String kind : new String[] {"shy", "plai", "plains", "pol", "hire", "homeles", "a", "guest", "7", ";"}) {
+      fault(1, HEAD + ";guest a |" + kind + " want 1 sinks 0");
+    }
+  }
+
   // ---- 3: the evening's own line, and the end
 
   static void promise03_theEveningIsAheadOfAllOthers() {
@@ -464,8 +504,25 @@ public final class EdgesOfTextTest extends Edges {
     fault(6, HEAD + ";tale t hours 1 tires 0;need n by 0 pays 1|");
   }
 
+  private static String[] tokensOfAllLines() {
+    return (THREE + ";pair a b;draws a b by 1;tale t hours 1 tires 1;need n by 1 pays 1;seen a hour 1;gone a hour 1").replace(";", " ; ").split(" +");
+  }
+
+  static void promise03_aTokenOfAnotherSort() {
+    String[] tokens = tokensOfAllLines();
+    for (int i = 0; i < tokens.length; i++) {
+      for (String other : new String[] {"zz", "1", ";"}) {
+        boolean word = Character.isLetter(tokens[i].charAt(0));
+        if (other.equals(tokens[i]) || word && other.equals("zz") || other.equals("1") && Character.isDigit(tokens[i].charAt(0))) continue;
+        String ahead = String.join(" ", java.util.Arrays.copyOf(tokens, i)) + (i == 0 ? "" : " ");
+        String behind = String.join(" ", java.util.Arrays.copyOfRange(tokens, i + 1, tokens.length));
+        fault(1, ahead + "|" + other + " " + behind);
+      }
+    }
+  }
+
   static void promise03_theEndWhereALineIsOpen() {
-    String[] tokens = (THREE + ";pair a b;draws a b by 1;tale t hours 1 tires 1;need n by 1 pays 1;seen a hour 1;gone a hour 1").replace(";", " ; ").split(" +");
+    String[] tokens = tokensOfAllLines();
     StringBuilder text = new StringBuilder();
     boolean guest = false;
     for (int i = 0; i < tokens.length; i++) {

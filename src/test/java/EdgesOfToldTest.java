@@ -1,13 +1,9 @@
+import java.util.List;
 import java.util.NoSuchElementException;
+import java.util.function.ToIntFunction;
 
 /** Boundary cases of promises 55 to 57: tales told, sizes, trouble. */
 public final class EdgesOfToldTest extends Edges {
-  /** As much of each sort as there is room for. */
-  private static final String FULL = text(4, 30, 40, guests(7, "homeless", 99, 20), "pair a b;pair c d;pair e f",
-      "draws a b by 1;draws b a by 1;draws c a by 1;draws d a by 1;draws e a by 1;draws f a by 1;draws g a by 1;draws a g by 1",
-      "tale p hours 1 tires 1;tale q hours 1 tires 1;tale r hours 1 tires 1;tale s hours 1 tires 1",
-      "need i by 0 pays 1;need j by 0 pays 1;need k by 0 pays 1;need l by 0 pays 1;need m by 0 pays 1",
-      "seen a hour 0;seen a hour 0;seen a hour 0;gone a hour 0;gone a hour 0;gone a hour 0");
   private static final String ONE = text(0, 1, 0, guest("a", "plain", 1, 1));
 
   public static void main(String[] args) {
@@ -148,37 +144,13 @@ public final class EdgesOfToldTest extends Edges {
   }
 
   static void promise57_minus2IsNoRefusal() {
-    EveningVow x = plainlyForEver();
-    x.undo();
-    due("ends", x.ends(), -2);
-    due("trouble", x.trouble(), 0);
-    x.undo();
-    due("busiest", x.busiest(true), -2);
-    due("trouble", x.trouble(), 0);
-    x.undo();
-    due("order", x.order(0), -2);
-    due("trouble", x.trouble(), 0);
-    x.undo();
-    due("guest", x.guest(0, 5), -2);
-    due("trouble", x.trouble(), 0);
-    x.undo();
-    due("soonest", x.soonest(), -2);
-    due("trouble", x.trouble(), 0);
-    x.undo();
-    due("latest", x.latest(), -2);
-    due("trouble", x.trouble(), 0);
-    x.undo();
-    due("wayAt", x.wayAt(0), -2);
-    due("trouble", x.trouble(), 0);
-    x.undo();
-    due("judge", x.judge(), -2);
-    due("trouble", x.trouble(), 0);
-    x.undo();
-    due("endsBy", x.endsBy(0), -2);
-    due("trouble", x.trouble(), 0);
-  }
-
-  private static EveningVow plainlyForEver() {
-    return plainly(guest("a", "homeless", 1, 0));
+    List<ToIntFunction<EveningVow>> calls = List.of(x -> x.ends(), x -> x.last(), x -> x.leavesIn(0), x -> x.busiest(true), x -> x.order(0), x -> x.guest(0, 4),
+        x -> x.guest(0, 5), x -> x.tireFor(0), x -> x.endsWithCup(0), x -> x.soonest(), x -> x.latest(), x -> x.wayAt(0), x -> x.judge(), x -> x.endsBy(0));
+    EveningVow x = plainly(guest("a", "homeless", 1, 0));
+    for (int i = 0; i < calls.size(); i++) {
+      x.undo();
+      due("call " + i, calls.get(i).applyAsInt(x), -2);
+      due("trouble of call " + i, x.trouble(), 0);
+    }
   }
 }

@@ -78,6 +78,9 @@ public final class EdgesOfTownTest extends Edges {
     due("a cup, one sent home", x.ways(), 2);
     x.tell(0);
     due("nobody is there", x.ways(), 2);
+    Texts.tell(x, text(0, 1, 0, guest("a", "plain", 5, 1), "seen a hour 5", "seen a hour 6"));
+    due("told anew", x.ways(), 0);
+    due("told anew: judge", x.judge(), 0);
   }
 
   // ---- 37: wayAt
