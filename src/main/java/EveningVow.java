@@ -1000,8 +1000,9 @@ public final class EveningVow {
                 will[g] = want[g];
             }
             for (int d = 0; d < h.draws; d++) {
-                if (((there >> h.drawer[d]) & 1) == 1) {
-                    will[h.drawnGuest[d]] += h.drawnMuch[d];
+                int g = h.drawnGuest[d];
+                if (g >= 0 && g < h.guests && ((there >> h.drawer[d]) & 1) == 1) {
+                    will[g] += h.drawnMuch[d];
                 }
             }
         }
@@ -1508,7 +1509,7 @@ public final class EveningVow {
         private void readPair(House h) {
             int one = takeSingle(h, NONE);
             int other = takeSingle(h, one);
-            if (one >= 0 && other >= 0) {
+            if (one >= 0 && one < h.guests && other >= 0 && other < h.guests) {
                 h.mate[one] = other;
                 h.mate[other] = one;
                 h.pairs++;
@@ -1624,7 +1625,7 @@ public final class EveningVow {
         /** A guest who is in no pair yet, and unlike another one. */
         private int takeSingle(House h, int unlike) {
             int g = knownGuest();
-            if (g >= 0 && (g == unlike || h.mate[g] >= 0)) {
+            if (g >= 0 && g < h.guests && (g == unlike || h.mate[g] >= 0)) {
                 fail(AGAIN);
             }
             return taken(g);
